@@ -36,7 +36,7 @@ public final class BetweenStops {
     private static final int STAY_PART = 0, LATE_PART = 1, ASK_PART = 2, PARTS = 3;
     private static final int COST = 0, WALK = 1, WAIT = 2, RIDE = 3, MANY = 4, SORT = 5, NAMES = 6;
     private static final int END = 0, NO_TOKEN = 1, NUMBER = 2, NAME = 3;
-    private static final int STAY = 4, LATE = 5, ASK = 6, OR = 7, AND = 8, NOT = 9, NEGATION = 10;
+    private static final int STAY = 4, LATE = 5, ASK = 6, OR = 7, AND = 8, NOT = 9, NEGATION = 10, NAMES_FROM = 11;
     private static final int OR_LEVEL = 0, AND_LEVEL = 1, LIKE_LEVEL = 2, SUM_LEVEL = 3, TERM_LEVEL = 4, ONE_LEVEL = 5;
     private static final String SIGNS = "();+-*<=";
     private static final String FIRST_LAW = "stay 2000 < cost ; late many * 2 ; ask many ;";
@@ -912,6 +912,7 @@ public final class BetweenStops {
     /** A place where a car may stop. */
     private static final class Stop {
         int kind;
+        int kindAbove;
         int cell;
         int takes;
         int more;
@@ -921,6 +922,7 @@ public final class BetweenStops {
 
         void begin(int newKind, int newCell, int newTakes, int newMore) {
             kind = newKind;
+            kindAbove = isKind(newKind) ? KIND_ABOVE[newKind] : PLAIN;
             cell = newCell;
             takes = newTakes;
             more = newMore;
@@ -930,7 +932,7 @@ public final class BetweenStops {
         }
 
         boolean isOf(int other) {
-            return other == kind || other == PLAIN || (isKind(kind) && KIND_ABOVE[kind] == other);
+            return other == kind || other == kindAbove || other == PLAIN;
         }
 
         int secondsIf(int tenths) {
@@ -1246,27 +1248,21 @@ public final class BetweenStops {
             for (; behind < size && isLetter(bytes[behind]); behind++) {
                 continue;
             }
-            token = isWord("stay") ? STAY
+            int word = isWord("stay") ? STAY
                 : isWord("late") ? LATE
                 : isWord("ask") ? ASK
                 : isWord("or") ? OR
                 : isWord("and") ? AND
                 : isWord("not") ? NOT
-                : NAME;
-            if (token == NAME) {
-                readName();
-            }
-        }
-
-        private void readName() {
-            number = isWord("cost") ? COST
-                : isWord("walk") ? WALK
-                : isWord("wait") ? WAIT
-                : isWord("ride") ? RIDE
-                : isWord("many") ? MANY
-                : isWord("sort") ? SORT
-                : NAMES;
-            token = number == NAMES ? NO_TOKEN : NAME;
+                : isWord("cost") ? NAMES_FROM + COST
+                : isWord("walk") ? NAMES_FROM + WALK
+                : isWord("wait") ? NAMES_FROM + WAIT
+                : isWord("ride") ? NAMES_FROM + RIDE
+                : isWord("many") ? NAMES_FROM + MANY
+                : isWord("sort") ? NAMES_FROM + SORT
+                : NO_TOKEN;
+            token = word >= NAMES_FROM ? NAME : word;
+            number = word - NAMES_FROM;
         }
 
         private void readNumber() {
@@ -1318,19 +1314,19 @@ public final class BetweenStops {
         int faultOf(Text text) {
             text.clear();
             tape.rewind();
-            boolean isText = readPart(text, STAY) && readPart(text, LATE) && readPart(text, ASK) && tape.token == END;
-            return isText ? -1 : tape.start;
+            for (int key = STAY; key <= ASK; key++) {
+                if (!passes(key) || !readLevel(text, OR_LEVEL, 0) || !passes(';')) {
+                    return tape.start;
+                }
+                text.endPart();
+            }
+            return tape.token == END ? -1 : tape.start;
         }
 
-        private boolean readPart(Text text, int key) {
-            if (tape.token != key) {
+        private boolean passes(int token) {
+            if (tape.token != token) {
                 return false;
             }
-            tape.advance();
-            if (!readLevel(text, OR_LEVEL, 0) || tape.token != ';') {
-                return false;
-            }
-            text.endPart();
             tape.advance();
             return true;
         }
@@ -1394,11 +1390,7 @@ public final class BetweenStops {
                 return false;
             }
             tape.advance();
-            if (!readLevel(text, OR_LEVEL, open + 1) || tape.token != ')') {
-                return false;
-            }
-            tape.advance();
-            return true;
+            return readLevel(text, OR_LEVEL, open + 1) && passes(')');
         }
 
         private static boolean joinsAt(int level, int token) {
