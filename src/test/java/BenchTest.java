@@ -41,6 +41,14 @@ public final class BenchTest {
         bench(x, 1, -3800, 0, 10, 0);
         bench(x, 0, 0, 0, 0, 0);
         Due.due("what is asked opens none", x.count(2), 1);
+        BetweenStops one = new BetweenStops();
+        one.stop(0, 0, 0, 0);
+        one.stop(0, 40, 0, 0);
+        one.stop(0, 20, 1, 0);
+        one.trip(0, 40, 7, 0);
+        bench(one, 2, -7, 0, 7, 0);
+        one.open(2, 0);
+        bench(one, 2, 7, 7, 0, 1);
         Due.due("bench 3", x.bench(3, 0), BetweenStops.NO);
         Due.due("bench -1", x.bench(-1, 0), BetweenStops.NO);
         Due.due("bench what 4", x.bench(0, 4), BetweenStops.NO);
@@ -98,6 +106,22 @@ public final class BenchTest {
         Due.due("the total is no more", nobody.thins(), 3);
         Due.due("none is open", nobody.count(2), 0);
         Due.due("none to give", nobody.thins(), 0);
+        BetweenStops eight = new BetweenStops();
+        for (int p = 0; p < 8; p++) {
+            eight.stop(p % 6, 5 * p, p, p);
+        }
+        Due.due("all eight", eight.thins(), 8);
+        // 12360; without the last one 12600, without another one more still.
+        BetweenStops needed = new BetweenStops();
+        needed.stop(0, 0, 0, 0);
+        needed.stop(0, 40, 0, 0);
+        needed.stop(0, 20, 60, 0);
+        needed.trip(0, 40, 10, 0);
+        needed.trip(20, 40, 20, 0);
+        needed.trip(0, 20, 1, 0);
+        Due.due("the one to give up", needed.give(), 2);
+        Due.due("is needed", needed.thins(), 0);
+        Due.due("and stays open", needed.count(2), 3);
     }
 
     private static void across() {

@@ -8,6 +8,7 @@ public final class CarsTest {
         late();
         crowd();
         drawn();
+        drawnAside();
         drawnCar();
         image();
         imageOfAll();
@@ -75,6 +76,22 @@ public final class CarsTest {
         Due.due("just one", y.told(0, 3) + y.use(0), 4);
         y.open(1, 0);
         Due.due("nobody gets in", y.bunch(0, 0), 40);
+        BetweenStops first = cars("wait");
+        first.stop(0, 0, 0, 0);
+        Due.due("right where it leaves", first.bunch(0, 0), 20 + 40);
+        first.car(0, 1);
+        first.stop(0, 40, 0, 0);
+        first.trip(0, 40, 2, 0);
+        Due.textOf(first, "stay 0;late many;ask 0;");
+        first.force(2);
+        // 2 times 1 by 1, then 2 times (42 + 1) by 1.
+        Due.due("every second", first.bunch(0, 0), 2 + 40 + 86);
+        BetweenStops atFirst = new BetweenStops();
+        atFirst.stop(0, 0, 0, 0);
+        atFirst.stop(0, 40, 0, 0);
+        atFirst.trip(0, 40, 3, 0);
+        // 3 times 300 by 300 is 3; 3 times 426 by 300 is 4.
+        Due.due("by the first law", atFirst.bunch(0, 0), 6 + 120 + 8);
         BetweenStops z = cars("0-wait");
         z.stop(0, 10, 7, 0);
         Due.due("0 at least", z.bunch(0, 0), 47);
@@ -92,6 +109,9 @@ public final class CarsTest {
         Due.due("car 1 passes car 0", x.crowd(2, 0), -30);
         // Ends 90, 60, 140, 100.
         Due.due("car 3 passes car 2", x.crowd(4, 0), -40);
+        x.turns(0, 2);
+        Due.due("car 1 stands", x.crowd(2, 0), 70);
+        Due.due("car 2 passes car 1", x.crowd(3, 0), -30);
         Due.due("crowd 1", x.crowd(1, 0), BetweenStops.BAD);
         Due.due("crowd 13", x.crowd(13, 0), BetweenStops.BAD);
         Due.due("crowd late -1", x.crowd(2, -1), BetweenStops.BAD);
@@ -130,6 +150,22 @@ public final class CarsTest {
         Due.due("drawn -1", x.drawn(-1, 0), -5);
         Due.due("seed -1", x.drawn(2, -1), -7);
         Due.due("seed 100000", x.drawn(0, 100000), -7);
+    }
+
+    private static void drawnAside() {
+        BetweenStops x = new BetweenStops();
+        x.car(0, 2);
+        x.sort(0, 2, 9);
+        x.stop(0, 5, 1, 0);
+        x.stop(0, 35, 2, 0);
+        x.stop(0, 6, 4, 0);
+        x.stop(0, 34, 8, 0);
+        x.stop(0, 4, 16, 0);
+        x.stop(0, 36, 32, 0);
+        x.trip(5, 35, 1, 0);
+        x.trip(35, 5, 1, 0);
+        Due.due("from 5 to 35", x.drawn(0, 0), 90 + 12);
+        Due.due("from 35 to 5", x.drawn(1, 1), 90 + 12);
     }
 
     private static void drawnCar() {

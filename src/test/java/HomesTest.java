@@ -77,6 +77,11 @@ public final class HomesTest {
         bound.trip(1, 38, 99, 0);
         Due.due("3600 at most", bound.round(1), 1);
         Due.due("3600 at most then", bound.round(2), 1);
+        BetweenStops often = riders("wait=0");
+        often.car(0, 1);
+        often.trip(1, 38, 1, 0);
+        Due.due("1 at least", often.round(1), 1);
+        Due.due("1 at least then", often.round(2), 1);
         // Cut: 100 * 3 / 2 is 150, and 75 waited; 100 * 3 / 1 is 300.
         BetweenStops cut = riders("many=1 and wait<51 or wait=75");
         cut.trip(1, 38, 1, 0);
@@ -177,6 +182,10 @@ public final class HomesTest {
         Due.due("nobody's", x.told(3, 4), 0);
         Due.due("asked again", x.asked(), 0);
         Due.due("asked of none", new BetweenStops().asked(), 0);
+        BetweenStops first = new BetweenStops();
+        first.stop(1, 7, 7, 7);
+        Due.due("just the first", first.asked(), 1);
+        Due.due("nobody's first", first.told(0, 4), 0);
         // All are told as it is now: were stop 1 changed first, it would pay to ride past it.
         BetweenStops now = new BetweenStops();
         now.car(0, 2);

@@ -111,6 +111,16 @@ public final class LawTest {
         good("stay not 1 < 2 and not not 3 or(4=5)=0;late--1;ask-1-1;");
         good("stay(1<2)<3;late 0;ask 0;");
         fault("stay 2cost;", 6);
+        fault("xtay 1;", 0);
+        fault("stays 1;", 0);
+        fault("stay bost;", 5);
+        fault("stay zost;", 5);
+        fault("stay costz;", 5);
+        fault("stay 1;rate 0;", 7);
+        fault("stay 1;late 0;bsk 0;", 14);
+        fault("stay 1 ar 2;", 7);
+        fault("stay 1 end 2;", 7);
+        fault("stay nott 2;", 5);
         StringBuilder longest = new StringBuilder("stay 1" + REST);
         while (longest.length() < 160) {
             longest.append(' ');
@@ -186,6 +196,11 @@ public final class LawTest {
         // 2 to the 32nd is 0, 2 to the 31st the least int, which is less than what is 1 less than it.
         value("(256*256*256*256=0)*2+(256*256*256*128<0)+(256*256*256*128<256*256*256*128-1)", 4);
         value("4 < many or 3", 1);
+        value("1+2*(1+2*(1+2*(1+2*(1+2*(1)))))-57", 6);
+        // All levels wait in all that is open.
+        value("0 or 1 and 1<0+2*(0 or 1 and 0<1+2*(0 or 1 and 0<1+2*(0 or 1 and 1<0+2*(0 or 1 and 1=2-1*(1)))))", 1);
+        value("0 or 1 and 1<0+2*(0 or 1 and 0<1+2*(0 or 1 and 5<1+2*(0 or 1 and 1<0+2*(0 or 1 and 1=2-1*(1)))))", 1);
+        value("0 or 1 and 1<0+2*(0 or 1 and 1<1+2*(0 or 1 and 5<1+2*(0 or 1 and 1<0+2*(0 or 1 and 1=2-1*(1)))))", 0);
     }
 
     private static void force() {

@@ -95,6 +95,16 @@ public final class RoadTest {
         Due.due("to the top from the left", x.walks(10, 11, 1), 15 + 4 * 20);
         Due.due("from the top to the left", x.walks(11, 9, 1), 30);
         Due.due("from the right to the lower one", x.walks(12, 10, 2), 12 + 9 * 2);
+        x.road(1, 3);
+        Due.due("the first step", x.walks(0, 2, 0), 20 + 3 * 5);
+        Due.due("and from behind it", x.walks(2, 0, 0), 20 + 3 * 5);
+        x.road(0, 3);
+        Due.due("the first cell as high", x.walks(0, 1, 0), 10);
+        x.road(0, 0);
+        x.road(1, 0);
+        x.road(40, 2);
+        Due.due("the last step", x.walks(39, 40, 1), 15 + 2 * 20);
+        x.road(40, 0);
         x.road(11, 2);
         Due.due("changed", x.walks(9, 12, 0), 30 + 5 * 5);
         Due.due("changed, back", x.walks(12, 9, 0), 30 + 5 * 5);

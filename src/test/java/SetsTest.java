@@ -29,6 +29,17 @@ public final class SetsTest {
         return x;
     }
 
+    /** Just the one who loses by {0, 2} comes first. */
+    private static BetweenStops otherOrder() {
+        BetweenStops x = new BetweenStops();
+        x.stop(0, 0, 0, 0);
+        x.stop(0, 20, 60, 0);
+        x.stop(0, 40, 0, 0);
+        x.trip(20, 40, 1, 0);
+        x.trip(0, 40, 10, 0);
+        return x;
+    }
+
     private static void best() {
         BetweenStops x = town();
         Due.due("best set", x.best(0), 5);
@@ -58,6 +69,9 @@ public final class SetsTest {
         Due.due("bound 0", x.bound(0), 7);
         x.open(1, 0);
         Due.due("bound 199 with one that isn't open", x.bound(199), 7);
+        BetweenStops other = otherOrder();
+        Due.due("bound 199 of the first trip", other.bound(199), 7);
+        Due.due("bound 200 of the first trip", other.bound(200), 5);
         x.trip(1, 40, 1, 0);
         Due.due("bound that none meets", x.bound(9), -1);
         Due.due("bound 10", x.bound(10), 7);
@@ -70,6 +84,8 @@ public final class SetsTest {
         BetweenStops x = town();
         Due.due("least 39", x.least(39), 7);
         Due.due("least 40", x.least(40), 5);
+        Due.due("least 39 of the first trip", otherOrder().least(39), 7);
+        Due.due("least 40 of the first trip", otherOrder().least(40), 5);
         x.open(1, 0);
         Due.due("as it is now", x.least(0), 5);
         x.open(0, 0);
@@ -110,6 +126,19 @@ public final class SetsTest {
         Due.due("fewest 4999", x.fewest(4999), -1);
         Due.due("fewest 0", x.fewest(0), -1);
         Due.due("fewest 999999999", x.fewest(999999999), 0);
+        // Four trips of 2 + 27; who finds one stop gone walks a cell to the next and rides a cell more.
+        BetweenStops many = new BetweenStops();
+        many.car(0, 4);
+        for (int t = 0; t < 4; t++) {
+            many.stop(0, 10 * t, 0, 0);
+            many.stop(0, 10 * t + 9, 0, 0);
+            many.trip(10 * t, 10 * t + 9, 1, 0);
+        }
+        int all = 4 * (4 + 27);
+        Due.due("all eight", many.fewest(all), 255);
+        Due.due("none less", many.fewest(all - 1), -1);
+        Due.due("all eight still", many.fewest(all + 22), 255);
+        Due.due("seven, the least as bits", many.fewest(all + 23), 191);
         Due.due("fewest -1", x.fewest(-1), BetweenStops.BAD);
         Due.due("fewest 1000000000", x.fewest(1000000000), BetweenStops.BAD);
     }
@@ -147,6 +176,11 @@ public final class SetsTest {
         x.cell(1, 0, 0);
         Due.due("of another sort, walked", x.judge(1), 3);
         Due.due("what is asked closes none", x.count(2), 3);
+        x.sheet(2, 0, 3);
+        x.cell(2, 0, 1);
+        x.cell(2, 1, 1);
+        x.sort(0, 5, 199);
+        Due.due("the last one not open: 200 walked", x.judge(2), 0);
     }
 
     private static void patterns() {
@@ -163,6 +197,13 @@ public final class SetsTest {
         x.turns(1, 2);
         Due.due("whatever they are", x.patterns(0), 10);
         Due.due("what is asked turns none", x.told(1, 5), 2);
+        BetweenStops first = new BetweenStops();
+        first.stop(0, 20, 60, 0);
+        first.stop(0, 0, 0, 0);
+        first.stop(0, 40, 0, 0);
+        first.trip(0, 40, 10, 0);
+        Due.due("the first one", first.patterns(0), 100);
+        Due.due("its total", first.patterns(1), 4500);
         BetweenStops six = new BetweenStops();
         six.car(0, 2);
         six.trip(0, 40, 10, 0);

@@ -12,6 +12,7 @@ public final class StopsTest {
         bestWay();
         oneCar();
         standing();
+        standingNextDoor();
         firstOfLikeOnes();
         sum();
         use();
@@ -207,6 +208,23 @@ public final class StopsTest {
         takes(x, 0, 10 + 104, 0, 1, 0, 5, 104);
         x.want(5, 0);
         takes(x, 0, 10 + 94, 0, 1, 0, 5, 94);
+    }
+
+    private static void standingNextDoor() {
+        BetweenStops x = new BetweenStops();
+        x.car(0, 2);
+        x.sort(0, 2, 9);
+        x.stop(0, 6, 8, 0);
+        x.stop(0, 34, 16, 0);
+        x.stop(0, 5, 1, 0);
+        x.stop(0, 35, 2, 0);
+        x.stop(0, 4, 32, 0);
+        x.stop(0, 36, 64, 0);
+        x.trip(5, 35, 1, 0);
+        x.trip(35, 5, 1, 0);
+        // Those in the next cells count, those in the cells themselves and outside don't.
+        takes(x, 0, 2 + 90 + 24, 2, 3, 0, 1, 90 + 24);
+        takes(x, 1, 2 + 90 + 24, 3, 2, 0, 1, 90 + 24);
     }
 
     private static void firstOfLikeOnes() {
