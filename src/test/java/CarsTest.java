@@ -12,6 +12,7 @@ public final class CarsTest {
         drawnCar();
         image();
         imageOfAll();
+        tripsGone();
         Due.end();
     }
 
@@ -214,6 +215,32 @@ public final class CarsTest {
         Due.due("is a new one", x.taken(1, 6), 7);
         Due.due("and back once more", x.back(), 1);
         Due.due("trips of it", x.count(1), 1);
+    }
+
+    /** A trip that back() takes away goes no more. */
+    private static void tripsGone() {
+        BetweenStops x = new BetweenStops();
+        x.sort(1, 0, 60);
+        x.stop(0, 0, 0, 0);
+        x.stop(0, 40, 0, 0);
+        x.sheet(0, 0, 2);
+        x.trip(0, 1, 1, 0);
+        x.image();
+        x.trip(0, 40, 99, 1);
+        Due.due("they ride", x.use(0), 99);
+        Due.due("they walk far", x.judge(0), 1);
+        x.back();
+        Due.due("total", x.sum(0), 20);
+        Due.due("first that costs most", x.sum(1), 0);
+        Due.due("users", x.use(0), 0);
+        Due.due("who walks far", x.judge(0), -1);
+        Due.due("bound", x.bound(10), 0);
+        Due.due("least", x.least(0), 0);
+        Due.due("fair", x.fair(), 0);
+        Due.due("bench 1", x.bench(0, 1), 0);
+        Due.due("bench 3", x.bench(0, 3), 0);
+        Due.due("homes", x.homes(), 0);
+        Due.due("drawn", x.drawn(1, 0), -5);
     }
 
     private static void imageOfAll() {

@@ -126,6 +126,7 @@ public final class FaceTest {
             for (Method m : c.getDeclaredMethods()) {
                 Due.holds("seven parameters: " + m, m.getParameterCount() <= 7);
                 Due.holds("of its own, not made by the compiler: " + m, !m.isSynthetic());
+                Due.holds("no public name inside: " + m, c == BetweenStops.class || !FACE.contains(" " + m.getName() + "("));
             }
         }
     }

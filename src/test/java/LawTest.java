@@ -31,6 +31,10 @@ public final class LawTest {
         Due.due("one more", x.feed(0, 1), BetweenStops.FULL);
         Due.due("a byte that begins none", x.text(), -100);
         Due.due("empty then", x.count(5), 0);
+        Due.due("a long word", Due.textOf(x, "stayyyyyyyyyyyyy99999"), -100);
+        Due.due("what was on the tape is gone", Due.textOf(x, "stay"), -104);
+        Due.due("a long number", Due.textOf(x, "stay 000000000000"), -105);
+        Due.due("and gone", Due.textOf(x, "stay 1234"), -109);
         // The lowest bytes, the highest of them first: "stay" of a longer number, then the rest.
         x.feed(0x1122334473746179L, 4);
         Due.feedAll(x, " 1" + REST);

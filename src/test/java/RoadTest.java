@@ -95,6 +95,13 @@ public final class RoadTest {
         Due.due("to the top from the left", x.walks(10, 11, 1), 15 + 4 * 20);
         Due.due("from the top to the left", x.walks(11, 9, 1), 30);
         Due.due("from the right to the lower one", x.walks(12, 10, 2), 12 + 9 * 2);
+        x.road(3, 7);
+        x.road(5, 2);
+        Due.due("hills behind it don't count", x.walks(12, 9, 0), 30 + 9 * 5);
+        Due.due("hills ahead of it don't count", x.walks(9, 12, 0), 30 + 9 * 5);
+        Due.due("hills on both sides of it don't count", x.walks(5, 4, 0) + x.walks(4, 5, 0), 10 + 10 + 2 * 5);
+        x.road(3, 0);
+        x.road(5, 0);
         x.road(1, 3);
         Due.due("the first step", x.walks(0, 2, 0), 20 + 3 * 5);
         Due.due("and from behind it", x.walks(2, 0, 0), 20 + 3 * 5);
