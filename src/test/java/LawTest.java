@@ -125,6 +125,13 @@ public final class LawTest {
         fault("stay 1 ar 2;", 7);
         fault("stay 1 end 2;", 7);
         fault("stay nott 2;", 5);
+        fault("stay 1 stay 2;", 7);
+        fault("stay 1 late 2;", 7);
+        fault("stay 1 ask 2;", 7);
+        fault("or 1;late 0;ask 0;", 0);
+        fault("and 1;late 0;ask 0;", 0);
+        fault("not 1;late 0;ask 0;", 0);
+        fault("stay 1;or 0;ask 0;", 7);
         StringBuilder longest = new StringBuilder("stay 1" + REST);
         while (longest.length() < 160) {
             longest.append(' ');
