@@ -4,11 +4,13 @@ import java.util.Random;
 
 /** Long runs of calls drawn by fixed seeds, each answered by the program and by PlainModel. */
 public final class RandomRunsTest {
-    private static final int CALLS = 512;
+    // An object is for 512 calls, and one draw makes up to 33 (a sheet of eight trips, and the trips).
+    private static final int CALLS = 512 - 33;
     private final Random random;
     private final BetweenStops x = new BetweenStops();
     private final PlainModel m = new PlainModel();
     private final List<String> log = new ArrayList<>();
+    private boolean isAlike = true;
 
     private RandomRunsTest(long seed) {
         random = new Random(seed);
@@ -33,7 +35,7 @@ public final class RandomRunsTest {
             return false;
         }
         int dear = 0;
-        for (int i = log.size(); i < CALLS; i++) {
+        while (log.size() < CALLS) {
             int op = random.nextInt(44);
             // Calls that change the town much come more seldom.
             if ((op == 0 || op == 1 || op == 2 || op == 5 || op == 7 || op == 28) && random.nextInt(3) != 0) {
@@ -44,7 +46,7 @@ public final class RandomRunsTest {
             if (isDear && ++dear > 60) {
                 op = random.nextInt(18);
             }
-            if (!call(op)) {
+            if (!call(op) || !isAlike) {
                 System.out.println("seed " + seed + ":");
                 for (String line : log) {
                     System.out.println("  " + line);
@@ -87,6 +89,7 @@ public final class RandomRunsTest {
 
     private boolean same(String call, long got, long want) {
         log.add(call + " = " + got + (got == want ? "" : ", due is " + want));
+        isAlike &= got == want;
         return got == want;
     }
 
@@ -228,20 +231,17 @@ public final class RandomRunsTest {
     private void writeTrips(int s, int at) {
         for (int i = 0; i < 8; i++) {
             int v = i % 4 == 2 ? in(1, 99) : i % 4 == 3 ? in(0, 2) : in(0, 40);
-            x.cell(s, at + i, v);
-            m.cell(s, at + i, v);
+            same("cell " + s + " " + (at + i) + " " + v, x.cell(s, at + i, v), m.cell(s, at + i, v));
         }
     }
 
     private boolean judgeOne() {
         int s = in(0, 3);
         if (s >= 0 && s < 4 && random.nextInt(4) != 0) {
-            x.sheet(s, 0, m.stops.size());
-            m.sheet(s, 0, m.stops.size());
+            same("sheet " + s + " 0 " + m.stops.size(), x.sheet(s, 0, m.stops.size()), m.sheet(s, 0, m.stops.size()));
             for (int p = 0; p < m.stops.size(); p++) {
                 int v = in(0, 1);
-                x.cell(s, p, v);
-                m.cell(s, p, v);
+                same("cell " + s + " " + p + " " + v, x.cell(s, p, v), m.cell(s, p, v));
             }
         }
         return same("judge " + s, x.judge(s), m.judge(s));
@@ -258,8 +258,13 @@ public final class RandomRunsTest {
                 break;
             }
         }
-        for (int i = 0; i < bytes.length(); i++) {
-            if (!same("feed " + (int) bytes.charAt(i), x.feed(bytes.charAt(i), 1), m.feed(bytes.charAt(i), 1))) {
+        for (int i = 0; i < bytes.length(); i += 8) {
+            int n = Math.min(8, bytes.length() - i);
+            long w = random.nextLong();
+            for (int b = i; b < i + n; b++) {
+                w = w << 8 | bytes.charAt(b);
+            }
+            if (!same("feed " + w + " " + n, x.feed(w, n), m.feed(w, n))) {
                 return false;
             }
         }

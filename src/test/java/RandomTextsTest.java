@@ -22,8 +22,8 @@ public final class RandomTextsTest {
             }
             for (int n = 0; n < 4; n++) {
                 String bytes = RandomTexts.text(random);
+                Due.feedAll(x, bytes);
                 for (int b = 0; b < bytes.length(); b++) {
-                    x.feed(bytes.charAt(b), 1);
                     m.feed(bytes.charAt(b), 1);
                 }
                 int want = m.text();
